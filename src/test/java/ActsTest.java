@@ -44,6 +44,11 @@ public final class ActsTest {
         x.act(0, 0, 5);
         due("act 3", x.act(0, 3, 5), 0);
         due("no trace of act 3", x.count(8), 0);
+        for (int rate = 0; rate < 7; rate++) {
+            x.act(rate, 0, 5);
+            due("act 3 of rate " + rate, x.act(rate, 3, 5), 0);
+            due("no trace of act 3 of rate " + rate, x.count(8), 0);
+        }
         x.act(0, 0, 5);
         due("i -1", x.trace(-1), -1);
         due("i 0", x.trace(0), 10);

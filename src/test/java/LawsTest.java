@@ -60,6 +60,8 @@ public final class LawsTest {
         due("a fault", x.law(0, 0), -14);
         due("a fault empties the text", x.count(7), 0);
         due("a fault makes no law", x.count(2), 1);
+        Check.feed(x, "te");
+        due("bytes of the last text are gone", x.law(0, 0), -12);
         x.pass(100);
         due("of a day that is past", Check.law(x, 0, 3, "term 1"), 1);
         for (int k = 2; k < 16; k++) {
@@ -177,6 +179,9 @@ public final class LawsTest {
         fault("good 205 3", 6);
         fault("good 1 3 ", 8);
         fault("most 10 3", 6);
+        fault("most", 4);
+        fault("most;even", 4);
+        fault("most;", 4);
         fault("most x", 5);
         fault("most 1", 6);
         fault("most 1 ", 7);
@@ -286,6 +291,14 @@ public final class LawsTest {
         due("what it has is its own", x.holds(0, 55, 1), 1);
         Check.law(x, 0, 55, "gain 7");
         due("a new one is heard at once", x.holds(0, 55, 1), 7);
+        PennyRates y = new PennyRates();
+        for (int owner = -1; owner < 6; owner++) {
+            Check.law(y, owner, 100, "term 5");
+        }
+        for (int owner = -1; owner < 6; owner++) {
+            due("then", y.holds(owner, 100, 1), 5);
+            due("ahead, asked behind that", y.holds(owner, 99, 1), 0);
+        }
     }
 
     private static void lastCounts() {
@@ -293,11 +306,19 @@ public final class LawsTest {
         Check.law(x, -1, 0, "term 1;miles;term 2;good 3 1;good 3 2;good 13 8;most 1 5;most 1 6;even");
         due("term", x.holds(-1, 0, 1), 2);
         due("miles, even", x.holds(-1, 0, 6), 0);
+        due("goods of 1 and two figures are apart", x.holds(-1, 0, 21), 1);
         due("good", x.holds(-1, 0, 23), 2);
         due("another good", x.holds(-1, 0, 33), 8);
         due("most", x.holds(-1, 0, 11), 6);
         Check.law(x, -1, 0, "even;miles");
         due("even, miles", x.holds(-1, 0, 6), 1);
+        for (int good = 0; good < 20; good++) {
+            PennyRates y = new PennyRates();
+            Check.law(y, -1, 0, "good " + good + " " + (good + 5) % 10);
+            for (int g = 0; g < 20; g++) {
+                due("class of " + g, y.holds(-1, 0, 20 + g), g == good ? (g + 5) % 10 : g % 10);
+            }
+        }
     }
 
     private static void usual() {

@@ -117,6 +117,12 @@ public final class LinesTest {
         due("to itself", x.way(1, 1, 0), -1);
         x.line(0, 0, 5, 10);
         x.line(1, 5, 9, 10);
+        PennyRates z = new PennyRates();
+        z.line(0, 0, 1, 10);
+        z.line(0, 1, 0, 11);
+        z.line(1, 0, 1, 10);
+        due("line 0 has the fewest miles", z.way(1, 0, 0), 0);
+        due("its miles", z.miles(-1, 1, 0), 10);
         x.line(2, 0, 3, 5);
         x.line(3, 3, 9, 15);
         // Both have 20 miles: by 3 the stations are less than by 5.

@@ -261,6 +261,8 @@ public final class RatesTest {
         due("BAD ahead of STATE", x.charge(0, 4, 0, 0), -2);
         due("another class", x.charge(0, 4, 1, 0), -3);
         due("its class", x.charge(0, 13, 99, 9999), 495);
+        x.rate(0, 0, 0, 1, 0, 0, 3);
+        due("for nothing", x.charge(1, 13, 99, 0), 0);
     }
 
     private static void chargeByLaw() {
@@ -335,6 +337,9 @@ public final class RatesTest {
         x.rate(1, 0, 0, 1, 9999, 0, 3);
         due("just most", x.most(0, 0, 1), 0);
         due("one over", x.most(1, 0, 1), 1);
+        Check.law(x, -1, 1, "most 3 0");
+        due("no pence are lawful", x.most(1, 1, 0), 0);
+        due("all are over", x.most(1, 1, 1), 21);
         due("a toll", x.most(2, 0, 1), 79);
         due("a toll without a way of its own", x.most(3, 0, 1), 0);
         due("a through", x.most(4, 0, 1), 9979);
@@ -417,5 +422,11 @@ public final class RatesTest {
             due("5 of rate " + r, x.part(r, 0, 5), shares[r][2]);
             due("0 of rate " + r, x.part(r, 0, 0), 0);
         }
+        x.line(0, 3, 4, 1);
+        x.rate(1, 0, 2, 4, 7, 0, 0);
+        due("owner 0 has one more", x.part(3, 0, 0), 4);
+        due("owner 3", x.part(3, 0, 3), 3);
+        due("owner 5 is not on this way", x.part(3, 0, 5), 0);
+        due("nor is owner 1", x.part(3, 0, 1), 0);
     }
 }

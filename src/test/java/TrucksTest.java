@@ -99,6 +99,8 @@ public final class TrucksTest {
         row(x, 2, 11, 0, 0, 5, 20, 10);
         due("one", x.book(2, 1, 1), 1);
         due("all came", x.ended(), 0);
+        due("its good", x.friends(0, 10, 0, 1, 9, 9, 0), 1);
+        due("its paid a ton", x.friends(0, 10, 0, 1, 9, 9, 2), 5);
         due("its due", x.due(0), 15);
         due("two of three", x.book(2, 1, 3), 2);
         due("the third may not be one", x.ended(), 2);
@@ -165,6 +167,10 @@ public final class TrucksTest {
         due("its class by the law of its day", x.due(2), 24);
         x.withdraw(0);
         due("its day is ahead", x.due(0), 24);
+        x.rate(0, 0, 0, 1, 0, 10, 0);
+        x.truck(1, 0, 4, 9, 10);
+        Check.law(x, 0, 10, "term 0");
+        due("due is nothing", x.due(3), 0);
     }
 
     private static void unlikeRefusals() {
@@ -284,6 +290,16 @@ public final class TrucksTest {
         due("the last counts", x.unlike(1, 0, 1), 1);
         Check.law(x, -1, 30, "same b;excuse b");
         due("both", x.unlike(1, 0, 0) * 10 + x.unlike(1, 0, 1), 10);
+        Check.law(x, -1, 30, "same x;excuse b");
+        Check.law(x, -1, 30, "even");
+        due("a law has not what the one ahead of it had", x.unlike(1, 0, 0) * 10 + x.unlike(1, 0, 1), 11);
+        String longE = "x|x|x|x|x|x|x|x|x|x|x|x|x|x|x|x|x|x|x|x|x|x|x|x|x|x|x|x|x|x|x|x|x|x|x|x|x|x|x|x|x";
+        for (int k = 0; k < 4; k++) {
+            Check.law(x, -1, 30, "same " + longE + "|b");
+            due("long ones, one behind another", x.unlike(1, 0, 0), 1);
+            Check.law(x, -1, 30, "same " + longE);
+            due("long ones that don't hold", x.unlike(1, 0, 0), 0);
+        }
         Check.law(x, -1, 30, "excuse b;same x");
         due("neither", x.unlike(1, 0, 0) * 10 + x.unlike(1, 0, 1), 0);
     }
@@ -304,6 +320,8 @@ public final class TrucksTest {
         x.truck(0, 0, 3, 10, 0);
         x.truck(1, 0, 3, 10, 0);
         due("three", x.unlikes(0), 3);
+        due("what -1 of three", x.unlikes(-1), -1);
+        due("what 3 of three", x.unlikes(3), -1);
         due("the lesser", x.unlikes(1), 0);
         due("the greater", x.unlikes(2), 4);
         Check.law(x, -1, 0, "excuse t<2");
@@ -341,6 +359,15 @@ public final class TrucksTest {
         due("729 days: one whole year", x.suit(4), 13);
         x.pass(1);
         due("730 days: two, cut once", x.suit(4), 7 + 13);
+        x.truck(1, 0, 2, 110, 365);
+        due("364 and 365 days are not alike", x.suit(4), 7 + 13 + 100 + 99);
+        x.truck(1, 0, 2, 110, 366);
+        due("no whole year", x.suit(4), 7 + 13 + 100 + 99 + 100);
+        Check.law(x, -1, 730, "back 364");
+        due("just one is not too far back", x.suit(4), 100);
+        x.rate(0, 0, 3, 4, 0, 730, 0);
+        x.truck(2, 0, 2, 5, 730);
+        due("a due of nothing", x.suit(3), 5);
     }
 
     private static void suitLimits() {
@@ -472,5 +499,12 @@ public final class TrucksTest {
         x.line(1, 5, 7, 1);
         due("one without a charge is not cheaper", x.cry(0, 9, 0, 1, 5), 2);
         due("no rates for this good", x.cry(0, 9, 1, 1, 5), -3);
+        PennyRates y = new PennyRates();
+        y.line(0, 3, 2, 5);
+        y.line(0, 2, 0, 5);
+        y.rate(0, 0, 2, 3, 1, 0, 0);
+        y.rate(0, 0, 0, 3, 0, 0, 0);
+        due("station 0 for nothing", y.cry(2, 3, 0, 1, 0), 1);
+        due("than nothing none is cheaper", y.cry(0, 3, 0, 1, 0), 0);
     }
 }

@@ -64,6 +64,9 @@ public final class WantsTest {
         due("not yet", x.ships(0, 4), 1);
         x.want(0, 1, 1, 7, 999);
         due("another class", x.ships(1, 4), 0);
+        x.rate(0, 0, 4, 5, 0, 0, 0);
+        x.want(4, 5, 0, 7, 0);
+        due("for nothing", x.ships(2, 4), 1);
     }
 
     private static void takings() {
@@ -334,6 +337,11 @@ public final class WantsTest {
         due("the greatest a ton, cut", x.friends(1, 3, 0, 1, 5, 10, 2), 33);
         // 33 a ton: 99 is less than 100, 231 is 131 more, 66 is less than 67.
         due("rebate", x.friends(1, 3, 0, 1, 5, 10, 3), 131);
+        due("the first may be the least", x.friends(1, 3, 0, 1, 6, 10, 1), 14);
+        x.truck(3, 9, 1, 4, 7);
+        x.truck(3, 9, 1, 6, 7);
+        due("the first is the least", x.friends(1, 9, 1, 0, 7, 7, 1), 4);
+        due("the last is the greatest", x.friends(1, 9, 1, 0, 7, 7, 2), 6);
         due("one day", x.friends(1, 3, 0, 1, 10, 10, 0), 1);
         due("one day, no rebate", x.friends(1, 3, 0, 1, 10, 10, 3), 0);
         due("all days", x.friends(1, 3, 0, 1, 0, 9999, 2), 900);
