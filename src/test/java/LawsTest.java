@@ -203,6 +203,12 @@ public final class LawsTest {
         fault("same x ", 6);
         fault("same x x", 6);
         fault("same y", 5);
+        fault("same 5", 5);
+        fault("same g5", 6);
+        fault("same c5", 6);
+        fault("same o5", 6);
+        fault("same t5", 6);
+        fault("same d5", 6);
         fault("same g", 6);
         fault("same g<1", 6);
         fault("same g=", 7);

@@ -241,6 +241,21 @@ public final class TrucksTest {
         for (String test : fail) {
             holdsFor(two(), test, 0);
         }
+        for (String sort : new String[] {"g=", "c=", "o=", "t>", "d>"}) {
+            holdsFor(two(), sort + "9999", 0);
+            holdsFor(two(), sort + "9998", 0);
+        }
+        for (String sort : new String[] {"t<", "d<"}) {
+            holdsFor(two(), sort + "9999", 1);
+            holdsFor(two(), sort + "0", 0);
+        }
+        PennyRates w = new PennyRates();
+        w.rate(0, 0, 0, 1, 5, 0, 0);
+        w.truck(0, 0, 1, 1, 0);
+        w.truck(0, 0, 1, 1, 0);
+        holdsFor(w, "g=9999", 0);
+        holdsFor(w, "c=9999", 0);
+        holdsFor(w, "g=0&c=0&o=0&x", 1);
         PennyRates x = two();
         x.withdraw(1);
         holdsFor(x, "b", 1);
@@ -454,6 +469,10 @@ public final class TrucksTest {
         x.rate(0, 0, 0, 9, 5000, 0, 0);
         due("nine would be cheaper", x.cheap(0, 9, 0, 1, 0, 0), 5000);
         x.rate(0, 0, 3, 5, 50, 0, 0);
+        due("one, where others need more", x.cheap(7, 8, 0, 1, 0, 1), 1);
+        due("it", x.cheap(7, 8, 0, 1, 0, 10), 7);
+        due("no second", x.cheap(7, 8, 0, 1, 0, 11), -1);
+        due("two", x.cheap(6, 8, 0, 1, 0, 1), 2);
         due("eight with a dear one", x.cheap(0, 9, 0, 1, 0, 0), 7 + 50);
         due("its fourth", x.cheap(0, 9, 0, 1, 0, 13), 11);
         due("its fifth", x.cheap(0, 9, 0, 1, 0, 14), 5);
