@@ -81,42 +81,6 @@ public final class RoughTest {
         }
     }
 
-    /** All that can be asked, as one number. */
-    private static long print(PennyRates x) {
-        long sum = 0;
-        for (int what = 0; what < 9; what++) {
-            sum = sum * 31 + x.count(what);
-        }
-        for (int k = 0; k < 20; k++) {
-            sum = sum * 31 + x.trace(k);
-        }
-        for (int rate = 0; rate < 60; rate++) {
-            for (int what = 0; what < 11; what++) {
-                sum = sum * 31 + x.of(rate, what);
-            }
-        }
-        for (int owner = -1; owner < 6; owner++) {
-            for (int what = 0; what < 40; what++) {
-                sum = sum * 31 + x.holds(owner, 400, what);
-            }
-            for (int s = 0; s < 16; s++) {
-                sum = sum * 31 + x.miles(owner, 0, s);
-            }
-        }
-        for (int truck = 0; truck < 80; truck++) {
-            sum = sum * 31 + x.due(truck);
-        }
-        for (int tape = 0; tape < 6; tape++) {
-            for (int i = 0; i < 80; i++) {
-                sum = sum * 31 + x.read(tape, i);
-            }
-        }
-        for (int want = 0; want < 20; want++) {
-            sum = sum * 31 + x.ships(want, 405);
-        }
-        return ((sum * 31 + x.ended()) * 31 + x.unlikes(0)) * 31 + x.suit(3);
-    }
-
     private static void refusalsChangeNothing(List<Method> calls) throws Exception {
         int refused = 0;
         for (int run = 0; run < 30; run++) {
@@ -126,13 +90,13 @@ public final class RoughTest {
             x.act(lot.nextInt(9), 2, 5);
             for (int k = 0; k < 300; k++) {
                 Method m = calls.get(lot.nextInt(calls.size()));
-                long before = print(x);
+                long before = Print.of(x);
                 long got = ask(x, m, numbers(m, lot));
                 if (m.getName().matches("act|law|read") || got >= 0 || got < -20) {
                     continue;
                 }
                 refused++;
-                CHECK.due("all after " + m + " answered " + got, print(x), before);
+                CHECK.due("all after " + m + " answered " + got, Print.of(x), before);
             }
         }
         CHECK.holds("many were refused: " + refused, refused > 1000);
