@@ -105,6 +105,13 @@ public final class ActsEdgesTest {
             due("no bodies then", x.count(8), 0);
             due("no trace then", x.trace(0), -1);
         }
+        for (int rate = 0; rate < 7; rate++) {
+            for (int act : new int[] {-1, 3, 4}) {
+                x.act(rate, 2, 5);
+                due("act " + act + " of rate " + rate, x.act(rate, act, 5), 0);
+                due("no trace of it", x.count(8), 0);
+            }
+        }
         PennyRates y = new PennyRates();
         due("no rate at all", y.act(0, 0, 5), 0);
     }
@@ -113,10 +120,21 @@ public final class ActsEdgesTest {
     private static void traceOfTheLatest() {
         PennyRates x = kinds(1, 7, 7);
         int[] boat = {50, 12, 51, 20, 11, 10, 51, 20, 11, 10};
-        x.act(4, 2, 5);
-        for (int i = 0; i < 10; i++) {
-            due("boat ends " + i, x.trace(i), boat[i]);
+        int[][][] bodies = {{{10}, {11, 10}, {12, 11, 10}}, {{10}, {20, 11, 10}, {12, 20, 11, 10}},
+            {{30, 10}, {11, 30, 10}, {12, 11, 30, 10}}, {{40, 10}, {11, 40, 10}, {12, 11, 40, 10}},
+            {{10}, {51, 20, 11, 10}, boat}, {{70}, {11, 70}, {71, 70, 12, 11, 70}}, {{10}, {11, 10}, {60, 12, 11, 10}}};
+        for (int rate = 0; rate < 7; rate++) {
+            for (int act = 0; act < 3; act++) {
+                x.act(rate, act, 5);
+                int[] want = bodies[rate][act];
+                due("rate " + rate + " act " + act, x.count(8), want.length);
+                for (int i = 0; i < want.length; i++) {
+                    due("rate " + rate + " act " + act + " body " + i, x.trace(i), want[i]);
+                }
+                due("its end", x.trace(want.length), -1);
+            }
         }
+        x.act(4, 2, 5);
         due("its end", x.trace(10), -1);
         x.act(0, 0, 5);
         due("a shorter one", x.trace(0), 10);

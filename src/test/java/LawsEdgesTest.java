@@ -31,6 +31,9 @@ public final class LawsEdgesTest {
         tooGreat();
         spoiltAnywhere();
         theLastCounts();
+        factorsTermsExpressions();
+        noneOfTheTextAhead();
+        manyLongTexts();
         asTheCourtHasIt();
         withoutThat();
         holdsNoneSuch();
@@ -498,6 +501,83 @@ public final class LawsEdgesTest {
         x.truck(0, 0, 1, 1, 0);
         Check.law(x, -1, 0, text);
         due("'" + text + "'", x.unlike(0, 1, 0), want);
+    }
+
+    /** "E: T or T|E. T: F or F&T. F: !F, (E), or a TEST" */
+    private static void factorsTermsExpressions() {
+        String[] tests = {"b", "x"};
+        for (String one : tests) {
+            for (String two : tests) {
+                for (String three : tests) {
+                    // x holds, b doesn't.
+                    boolean p = one.equals("x");
+                    boolean q = two.equals("x");
+                    boolean r = three.equals("x");
+                    says(one + "&" + two, p && q);
+                    says(one + "|" + two, p || q);
+                    says("!" + one, !p);
+                    says("!!" + one, p);
+                    says("!" + one + "&" + two, !p && q);
+                    says("!" + one + "|" + two, !p || q);
+                    says(one + "&!" + two, p && !q);
+                    says("!(" + one + "&" + two + ")", !(p && q));
+                    says("!(" + one + "|" + two + ")", !(p || q));
+                    says(one + "|" + two + "&" + three, p || q && r);
+                    says(one + "&" + two + "|" + three, p && q || r);
+                    says("(" + one + "|" + two + ")&" + three, (p || q) && r);
+                    says(one + "&(" + two + "|" + three + ")", p && (q || r));
+                    says(one + "&" + two + "&" + three, p && q && r);
+                    says(one + "|" + two + "|" + three, p || q || r);
+                    says("!(" + one + "|" + two + "&" + three + ")", !(p || q && r));
+                    says("(((((" + one + "&" + two + "|" + three + ")))))", p && q || r);
+                    says("(" + one + "&!(" + two + "|!" + three + "))|" + three + "&" + one, p && !(q || !r) || r && p);
+                }
+            }
+        }
+    }
+
+    private static void says(String e, boolean want) {
+        sameSays("same " + e, want ? 1 : 0);
+        sameSays("excuse b;same " + e + ";excuse x", want ? 1 : 0);
+    }
+
+    /** "THE TEXT, which is empty then": a law has none of what the text ahead of it had, good or not. */
+    private static void noneOfTheTextAhead() {
+        String[] ahead = {"same b", "excuse x", "same b;excuse x", "excuse x;same b", "term 9;same b", "small 5;same b;excuse x|",
+            "excuse x;same b&", "good 3 4;most 5 6;notice 7;back 8;gain 9;miles;same b", "excuse x|x|x|x;same b|b|b|b"};
+        for (String first : ahead) {
+            for (String next : new String[] {"even", "term 0", "good 1 1", "most 1 9999"}) {
+                PennyRates x = new PennyRates();
+                x.rate(0, 0, 0, 1, 5, 0, 0);
+                x.truck(0, 0, 1, 1, 0);
+                x.truck(0, 0, 1, 2, 0);
+                Check.law(x, -1, 0, first);
+                int number = x.count(2);
+                due("'" + next + "' behind '" + first + "'", Check.law(x, -1, 0, next), number);
+                due("same holds", x.unlike(0, 1, 0), 1);
+                due("excuse doesn't", x.unlike(0, 1, 1), 1);
+                int[] usual = {0, 1, 0, 365, 0, 0};
+                for (int what = 1; what <= 6; what++) {
+                    due("what " + what, x.holds(-1, 0, what), usual[what - 1]);
+                }
+                due("class of 3", x.holds(-1, 0, 23), 3);
+                due("most of 5", x.holds(-1, 0, 15), 9999);
+            }
+        }
+    }
+
+    /** As many texts with long expressions as there may be laws, and more with faults: the last one is read whole. */
+    private static void manyLongTexts() {
+        PennyRates x = new PennyRates();
+        x.rate(0, 0, 0, 1, 5, 0, 0);
+        x.truck(0, 0, 1, 1, 0);
+        x.truck(0, 0, 1, 2, 0);
+        for (int k = 0; k < 16; k++) {
+            due("a fault", Check.law(x, -1, 0, longText(139)), -149);
+            String text = longText(136) + (k % 2 == 0 ? "|x" : "&x");
+            due("a law of " + text.length(), Check.law(x, -1, 0, text), k);
+            due("its last test is heard", x.unlike(0, 1, 0), k % 2 == 0 ? 1 : 0);
+        }
     }
 
     /** "What THE LAW of an OWNER has not is as THE COURT's has it" */

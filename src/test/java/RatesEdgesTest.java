@@ -407,6 +407,7 @@ public final class RatesEdgesTest {
         x.rate(3, 4, 0, 1, 0, 0, 0);
         due("no tenths", x.charge(1, 0, 99, 0), 0);
         due("no tenths and no way", x.rate(3, 4, 0, 2, 0, 0, 0) == 2 ? x.charge(2, 0, 1, 0) : -99, -3);
+        noWayWhateverTheTerm();
         PennyRates y = new PennyRates();
         for (int s = 0; s < 15; s++) {
             y.line(4, s, s + 1, 200);
@@ -419,11 +420,27 @@ public final class RatesEdgesTest {
         due("term is added behind the cut", y.charge(0, 0, 1, 0), 29709);
     }
 
+    private static void noWayWhateverTheTerm() {
+        PennyRates x = new PennyRates();
+        x.rate(3, 4, 0, 1, 99, 0, 0);
+        x.want(0, 1, 0, 1, 999);
+        x.truck(0, 0, 1, 5, 0);
+        for (String term : new String[] {"0", "1", "2", "9999"}) {
+            Check.law(x, 4, 0, "term " + term);
+            due("no WAY, term " + term, x.charge(0, 0, 1, 0), -3);
+            due("not due, term " + term, x.due(0), -3);
+            due("not cheap, term " + term, x.cheap(0, 1, 0, 1, 0, 0), -3);
+            due("not shipped, term " + term, x.ships(0, 0), 0);
+            due("no try, term " + term, x.tries(0, 5, 0), 0);
+        }
+    }
+
     /** "MOST ..: MILES of the WAY by any LINES times most of its CLASS .., by 10, cut." */
     private static void mostByTenCut() {
         PennyRates x = new PennyRates();
         x.rate(0, 4, 0, 1, 5, 0, 7);
         due("STATE: there is no WAY", x.most(0, 0, 0), -3);
+        noWayWhateverTheLaw();
         x.line(3, 0, 1, 1);
         Check.law(x, 4, 1, "most 7 9");
         Check.law(x, 4, 2, "most 7 10");
@@ -444,6 +461,17 @@ public final class RatesEdgesTest {
         y.rate(0, 0, 15, 0, 9999, 0, 0);
         due("the greatest", y.most(0, 9999, 0), 3000 * 9999 / 10);
         due("not over", y.most(0, 9999, 1), 0);
+    }
+
+    private static void noWayWhateverTheLaw() {
+        PennyRates x = new PennyRates();
+        x.rate(0, 4, 0, 1, 5, 0, 7);
+        x.line(4, 0, 2, 1);
+        for (String most : new String[] {"0", "1", "9", "10", "9999"}) {
+            Check.law(x, 4, 0, "most 7 " + most);
+            due("no WAY, most " + most, x.most(0, 0, 0), -3);
+            due("not over, most " + most, x.most(0, 0, 1), 0);
+        }
     }
 
     /** "(of a SPECIAL: of its GOOD's; THE LAW of its OWNER then)" */

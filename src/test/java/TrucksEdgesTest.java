@@ -84,6 +84,9 @@ public final class TrucksEdgesTest {
         due("by the law of its day", x.due(1), 18);
         due("of its class by the law of its day", x.due(3), 18);
         due("a special's tons are not made more", x.due(4), -3);
+        x.rate(0, 1, 0, 1, 0, 10, 0);
+        x.truck(3, 0, 99, 5, 10);
+        due("a due of nothing is one", x.due(8), 0);
     }
 
     private static void row(PennyRates x, int tape, int at, int... numbers) {
@@ -668,5 +671,21 @@ public final class TrucksEdgesTest {
         due("its miles are as before", x.cry(2, 0, 0, 1, 6), 0);
         x.line(0, 1, 0, 9);
         due("2 is farther now", x.cry(1, 0, 0, 1, 6), 13);
+        PennyRates y = new PennyRates();
+        y.line(0, 8, 9, 5);
+        y.line(0, 9, 0, 5);
+        y.line(0, 9, 15, 5);
+        y.rate(0, 0, 9, 8, 1, 0, 0);
+        due("the two farther ones have no charge", y.cry(9, 8, 0, 1, 0), 0);
+        y.rate(0, 0, 0, 8, 0, 0, 0);
+        due("station 0 is one, for nothing", y.cry(9, 8, 0, 1, 0), 1);
+        y.rate(0, 0, 15, 8, 0, 0, 0);
+        due("and station 15", y.cry(9, 8, 0, 1, 0), 2);
+        due("than nothing none is cheaper", y.cry(0, 8, 0, 1, 0), 0);
+        y.rate(0, 0, 9, 8, 0, 0, 0);
+        due("nor than the nearest for nothing", y.cry(9, 8, 0, 1, 0), 0);
+        for (int far = 0; far < 8; far++) {
+            due("without a way from it", y.cry(far, 8, 0, 1, 0), far == 0 ? 0 : -3);
+        }
     }
 }

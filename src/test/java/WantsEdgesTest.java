@@ -385,6 +385,13 @@ public final class WantsEdgesTest {
         due("all but the first", x.change(549), 1023 - 1);
         due("all ten", x.change(550), 1023);
         due("no more", x.change(551), -3);
+        for (int k = 10; k < 20; k++) {
+            x.want(0, 1, 0, 10, 9);
+        }
+        due("twenty wants, ten of which don't ship if the first is raised", x.takings(-1, 0), 495 + 900);
+        due("the second", x.change(495 + 901), 2);
+        due("all but the first", x.change(495 + 900 + 54), 1023 - 1);
+        due("no more with these", x.change(495 + 900 + 55), -3);
     }
 
     /** "on DAYS from one to another one" and "BAD: days (0 .. 9999, the first not above the last)" */
@@ -466,9 +473,17 @@ public final class WantsEdgesTest {
             due("of another day, what " + what, x.friends(0, 0, 0, 1, 1, 9999, what), 0);
             due("of one station, what " + what, x.friends(0, 0, 1, 1, 0, 9999, what), 0);
         }
+        for (int k = 0; k < 2; k++) {
+            x.truck(0, 2, 1, 999, 0);
+            x.truck(0, 3, 1, 3, 0);
+        }
         int[] with = {1, 7, 7, 0};
-        for (int what = 0; what < 4; what++) {
-            due("with one, what " + what, x.friends(0, 0, 0, 1, 0, 9999, what), with[what]);
+        for (int good = 2; good <= 3; good++) {
+            due("two of good " + good, x.friends(0, good, 0, 1, 0, 9999, 0), 2);
+            for (int what = 0; what < 4; what++) {
+                due("with one, what " + what, x.friends(0, 0, 0, 1, 0, 9999, what), with[what]);
+                x.friends(0, good, 0, 1, 0, 9999, 0);
+            }
         }
     }
 }
