@@ -224,6 +224,31 @@ public final class LinesEdgesTest {
         due("NONE all the same: stations", x.miles(0, 16, 16), -1);
     }
 
+    /** Lines from both stations, but to other ones: no line of theirs is on a way between the two. */
+    private static void withoutAWay() {
+        PennyRates x = new PennyRates();
+        for (int s = 0; s < 7; s++) {
+            x.line(0, s, s + 1, 1);
+            x.line(0, s + 8, s + 9, 1);
+        }
+        x.line(0, 7, 0, 1);
+        x.line(0, 15, 8, 1);
+        for (int a = 0; a < 8; a++) {
+            for (int b = 8; b < 16; b++) {
+                for (int i = 0; i < 3; i++) {
+                    due("line " + i + " from " + a + " to " + b, x.way(a, b, i), -1);
+                    due("line " + i + " from " + b + " to " + a, x.way(b, a, i), -1);
+                }
+                due("miles", x.miles(-1, a, b), -3);
+                due("miles back", x.miles(0, b, a), -3);
+            }
+        }
+        x.rate(1, 0, 1, 9, 50, 0, 0);
+        x.rate(4, 0, 9, 1, 50, 0, 0);
+        due("no parts of a through", x.part(0, 0, 0), -3);
+        due("no parts of a boat", x.part(1, 0, 0), -3);
+    }
+
     /** "The i-th LINE of the WAY by any LINES. NONE." */
     private static void lineOfTheWay() {
         PennyRates x = new PennyRates();
@@ -239,5 +264,6 @@ public final class LinesEdgesTest {
             due("no line " + i + " back", x.way(15, 0, i), -1);
         }
         due("the longest way", x.miles(-1, 0, 15), 3000);
+        withoutAWay();
     }
 }
